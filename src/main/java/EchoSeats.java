@@ -367,6 +367,10 @@ public final class EchoSeats {
         }
     }
 
+    private static int squares(int apartX, int apartY) {
+        return apartX * apartX + apartY * apartY;
+    }
+
     private static int timeOf(int waySquared) {
         int square = 100 * waySquared;
         int root = 0;
@@ -501,9 +505,7 @@ public final class EchoSeats {
         }
 
         int waySquared(int i, int j, int x, int y) {
-            int apartX = imageX(i) - x;
-            int apartY = imageY(j) - y;
-            return apartX * apartX + apartY * apartY;
+            return squares(imageX(i) - x, imageY(j) - y);
         }
 
         boolean isHidden(int i, int j, int x, int y) {
@@ -932,9 +934,11 @@ public final class EchoSeats {
 
         /** The mark is another one for each IMAGE, so that the row need not be emptied between them. */
         private int unlikeTimes(Scene scene, int i, int j, int mark) {
+            int fromX = scene.imageX(i);
+            int fromY = scene.imageY(j);
             int unlike = 0;
             for (int n = 0; n < found; n++) {
-                int time = timeOf(scene.waySquared(i, j, placeX[n], placeY[n]));
+                int time = timeOf(squares(fromX - placeX[n], fromY - placeY[n]));
                 if (time < TIMES && toldBy[time] != mark) {
                     toldBy[time] = mark;
                     unlike++;
