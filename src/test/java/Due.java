@@ -2,6 +2,7 @@
 final class Due {
     private static int wrong = 0;
     private static int compared = 0;
+    private static String sentence = "";
 
     private Due() { }
 
@@ -9,12 +10,21 @@ final class Due {
         compared++;
         if (got != want) {
             wrong++;
-            System.out.println(call + " answered " + got + ", due is " + want);
+            System.out.println((sentence.isEmpty() ? "" : "\"" + sentence + "\": ") + call + " answered " + got + ", due is " + want);
         }
     }
 
     static void holds(String what, boolean so) {
         is(what, so ? 1 : 0, 1);
+    }
+
+    /** The document's sentence that the next answers belong to; empty for none. */
+    static void under(String words) {
+        sentence = words;
+    }
+
+    static int compared() {
+        return compared;
     }
 
     static void types(EchoSeats x, String text) {
