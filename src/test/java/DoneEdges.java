@@ -211,6 +211,8 @@ final class DoneEdges {
         EchoSeats high = Due.made("r3 20;c2 20 20;");
         Due.is("draws(0, 0, 20)", high.draws(0, 0, 20), 2020);
         Due.is("draws(0, 0, 21)", high.draws(0, 0, 21), BAD);
+        Due.is("draws(0, 20, 20)", high.draws(0, 20, 20), 20);
+        Due.is("draws(0, 21, 21)", high.draws(0, 21, 21), BAD);
     }
 
     private static void moves() {

@@ -11,6 +11,9 @@ final class HeardEdges {
     /** Something is heard, and all of it has STRENGTH 0. */
     private static final String ALL_SWALLOWED = "w0 10;w1 10;w2 10;w3 10;s9 1;c5 1 1;";
 
+    /** (0, 3) alone, three times by walls that leave a tenth: 1000 by 593. */
+    private static final String LEAST_SOUND = "r6 6;w2 9;w3 9;q0 0;s4 0;c1 0 5;";
+
     private HeardEdges() { }
 
     private static void early(EchoSeats x, int t, int upper, int lower) {
@@ -44,6 +47,17 @@ final class HeardEdges {
         Due.holds("something is HEARD", swallowed.sound(0, 0) > 0);
         early(swallowed, 0, 0, 1);
         early(swallowed, 999, 0, 1);
+    }
+
+    /** The least SOUND that is not 0. */
+    private static void earlyOfTheLeastSound() {
+        EchoSeats x = Due.made(LEAST_SOUND);
+        Due.is("SOUND", x.sound(0, 1), 1);
+        early(x, 242, 0, 1);
+        early(x, 243, 1, 1);
+        Due.is("FADE", x.fade(0, 1), 243);
+        odds(x, 5, 1, 1, 4);
+        odds(x, 5, 2, 0, 1);
     }
 
     private static void tenthsOrLess() {
@@ -103,6 +117,8 @@ final class HeardEdges {
         Due.is("all is early", Due.made("s10 8;s9 8;s10 7;").best(999), 0);
         Due.is("nothing is heard at the first", Due.made("q10 8;s0 0;s9 8;c1 0 8;").best(999), 1);
         Due.is("nothing is heard at any", Due.made("q10 8;s0 0;s0 1;c1 0 8;").best(999), 0);
+        // 12 of 13 at the first, 1 of 1 at the other.
+        Due.is("the least SOUND may be best", Due.made("r17 11;w0 9;w1 9;w2 9;w3 9;q2 7;s8 1;s8 5;c6 0 10;").best(312), 1);
         Due.is("a louder one is not better", Due.made(WEST_ECHOES + "s1 1;s10 1;").best(999), 0);
     }
 
@@ -256,7 +272,10 @@ final class HeardEdges {
 
     static void run() {
         Edge.of("EARLY for t (0 .. 999): the STRENGTHS of those HEARD at TIME t or sooner, by SOUND:", HeardEdges::earlyAtItsTime);
-        Edge.of("a fraction (0 by 1, if SOUND is 0).", HeardEdges::earlyOfNoSound);
+        Edge.of("a fraction (0 by 1, if SOUND is 0).", () -> {
+            earlyOfNoSound();
+            earlyOfTheLeastSound();
+        });
         Edge.of("FADE for p (1 .. 9): the least TIME of any HEARD behind which the STRENGTHS that are left are p tenths of SOUND or less;",
                 HeardEdges::tenthsOrLess);
         Edge.of("NONE (nothing is HEARD).", HeardEdges::fadeOfNothing);
