@@ -1,9 +1,12 @@
+import java.lang.reflect.Field;
+import java.lang.reflect.Method;
+import java.lang.reflect.Modifier;
 import java.nio.file.Files;
 import java.nio.file.Path;
 import java.util.regex.Matcher;
 import java.util.regex.Pattern;
 
-/** Words that LANGUAGE.md rules out, and calls of the library beyond those that the class uses. */
+/** Words that LANGUAGE.md rules out, calls of the library beyond those that the class uses, and limits. */
 public final class LanguageTest {
     private static final String[] RULED_OUT = {"\\bthrow\\b", "\\btry\\b", "\\bcatch\\b", "\\bsynchronized\\b", "\\bassert\\b",
         "->", "::", "Exact\\b", "\\bpackage\\b", "\\bstatic\\s*\\{", "\\bprotected\\b", "\\bthread\\b", "\\bRandom\\b",
@@ -23,6 +26,25 @@ public final class LanguageTest {
         }
     }
 
+    /** Rules 2, 5, 11. */
+    private static void keepsLimits(Class<?> kind) {
+        int fields = 0;
+        for (Field f : kind.getDeclaredFields()) {
+            boolean isStatic = Modifier.isStatic(f.getModifiers());
+            Due.holds(f + ": what is static is a constant of int", !isStatic || Modifier.isFinal(f.getModifiers()) && f.getType() == int.class);
+            if (!isStatic) fields++;
+        }
+        Due.holds(kind + " has twenty fields at most", fields <= 20);
+        for (Method m : kind.getDeclaredMethods()) {
+            Due.holds(m + " takes seven numbers at most", m.getParameterCount() <= 7);
+        }
+        for (Class<?> inside : kind.getDeclaredClasses()) {
+            Due.holds(inside + " is named and static", Modifier.isStatic(inside.getModifiers()));
+            keepsLimits(inside);
+        }
+        Due.holds("twelve classes at most", kind.getDeclaredClasses().length < 12);
+    }
+
     public static void main(String[] args) throws Exception {
         String source = Files.readString(Path.of("src/main/java/EchoSeats.java"));
         for (int n = 0; n < source.length(); n++) {
@@ -34,6 +56,7 @@ public final class LanguageTest {
             Due.holds("no " + word, !m.find());
         }
         newStandsInConstructorsAlone(code);
+        keepsLimits(EchoSeats.class);
         Due.end();
     }
 }
